@@ -26,6 +26,7 @@ public final class RandomRunsTest {
     private final List<String> done = new ArrayList<>();
     private final List<String> passive;
     private final List<String> active;
+    private int machine = 0;
     private int calls = 0;
     private int wrong = 0;
 
@@ -92,7 +93,7 @@ public final class RandomRunsTest {
         text.append(" load ").append(chance(60) ? below(500) : below(40));
         text.append(" visit ").append(chance(70) ? below(15) : below(100));
         text.append(" alpha ").append(below(101));
-        text.append(" level ").append(chance(70) ? below(60) : below(101));
+        text.append(" level ").append(chance(70) ? below(40) : below(101));
         text.append(" horizon ").append(1 + below(30));
         int products = 1 + below(6);
         int machines = 1 + below(8);
@@ -107,7 +108,7 @@ public final class RandomRunsTest {
                 int from = below(60);
                 text.append(" gap ").append(from).append(' ').append(from + below(40));
             }
-            int slots = below(6);
+            int slots = chance(10) ? 0 : 1 + below(5);
             for (int s = 0; s < slots && text.length() < 900; s++) {
                 int capacity = 1 + below(chance(50) ? 12 : 99);
                 text.append(";slot ").append(below(products)).append(' ').append(capacity).append(' ')
@@ -146,6 +147,9 @@ public final class RandomRunsTest {
     }
 
     private String mutated(String text) {
+        if (chance(40)) {
+            return withOtherLines(text);
+        }
         List<String> tokens = new ArrayList<>(List.of(text.split("(?<=[ ;()<>=])|(?=[;()<>=])")));
         int changes = 1 + below(3);
         for (int i = 0; i < changes; i++) {
@@ -165,6 +169,37 @@ public final class RandomRunsTest {
         }
         String joined = String.join("", tokens);
         return chance(20) ? joined.substring(0, below(joined.length() + 1)) : joined;
+    }
+
+    private String withOtherLines(String text) {
+        List<String> lines = new ArrayList<>(List.of(text.split(";")));
+        int at = 1 + below(lines.size() - 1);
+        switch (below(6)) {
+            case 0 -> lines.remove(at);
+            case 1 -> lines.addAll(at, java.util.Collections.nCopies(2 + below(7), lines.get(at)));
+            case 2 -> lines.add(1, lines.remove(at));
+            case 3 -> lines.add("rule " + nested(7 + below(5)));
+            case 4 -> lines.set(at, lines.get(at).replaceFirst("[0-9]+(?= |$)", edge()));
+            default -> lines.removeIf(line -> line.startsWith("machine"));
+        }
+        return String.join(chance(10) ? " ; " : ";", lines);
+    }
+
+    private String nested(int deep) {
+        StringBuilder rule = new StringBuilder();
+        int open = 0;
+        for (int i = 0; i < deep; i++) {
+            boolean isNot = chance(50);
+            rule.append(isNot ? "not " : chance(20) ? "(cash>3 or " : "(");
+            open += isNot ? 0 : 1;
+        }
+        rule.append(chance(95) ? "empty > 0" : "slot");
+        return rule.append(")".repeat(open)).toString();
+    }
+
+    private String edge() {
+        int[] edges = {0, 1, 5, 6, 30, 31, 99, 100, 101, 999, 1000, 2000, 2001, 9999, 10000, 99999, 100000};
+        return String.valueOf(edges[below(edges.length)]);
     }
 
     private void loadText(String text, int n) {
@@ -221,26 +256,34 @@ public final class RandomRunsTest {
             case "event":
                 return index == 0 ? below(reference.events() + 1) : below(4);
             case "reports":
-                return index == 2 ? 1 + below(100) : index == 0 ? below(machines + 1) : below(5);
+                return index == 2 ? 1 + below(100) : index == 0 ? below(machines + 1) : aSlot();
             case "isRuleMet":
                 return index == 0 ? below(reference.rules() + 1) : below(machines + 1);
             case "minutesBetween":
                 return below(machines + 1) - 1;
             case "setGap":
-                return index == 0 ? below(machines + 1) : Math.max(0, reference.day() - 10 + below(40));
+                return index == 0 ? below(machines + 1) : chance(20) ? below(2)
+                        : Math.max(0, reference.day() - 10 + below(40));
             case "changeMix", "mixGain":
-                return index == 0 ? below(machines + 1) : index == 1 ? below(3)
+                return index == 0 ? below(machines + 1) : index == 1 ? aSlot()
                         : index == 2 ? below(products + 1) : chance(50) ? below(400) : below(2001);
             default:
-                return index == 0 ? below(machines + 1) : below(5);
+                return index == 0 ? below(machines + 1) : aSlot();
         }
+    }
+
+    private int aSlot() {
+        boolean hasSlots = machine >= 0 && machine < reference.machines() && reference.slots(machine) > 0;
+        return hasSlots && chance(90) ? below(reference.slots(machine)) : below(6);
     }
 
     private void callByChance(String name) {
         Method method = PROGRAM.get(name);
         Object[] args = new Object[method.getParameterCount()];
         for (int i = 0; i < args.length; i++) {
-            args[i] = argument(name, i);
+            int argument = argument(name, i);
+            machine = i == 0 ? argument : machine;
+            args[i] = argument;
         }
         call(name, args);
     }
@@ -254,7 +297,8 @@ public final class RandomRunsTest {
         for (String name : List.of("risk", "isDue", "cashIn", "visitsOf", "lastVisit", "daysLeft")) {
             call(name, m);
         }
-        int s = below(5);
+        machine = m;
+        int s = aSlot();
         for (String name : List.of("stockOf", "estimateOf", "rateOf", "lostOf", "soldOf", "filledOf")) {
             call(name, m, s);
         }
@@ -285,14 +329,16 @@ public final class RandomRunsTest {
         return wrong;
     }
 
-    private static int runText(int seed) {
-        RandomRunsTest test = new RandomRunsTest(seed);
-        for (int i = 0; i < 12 && test.wrong == 0; i++) {
+    /** On objects of their own, since an object is used for at most 512 calls. */
+    private int compareTexts() {
+        RandomRunsTest test = new RandomRunsTest(random.nextInt());
+        for (int i = 0; i < 8 && test.wrong == 0; i++) {
             String text = test.mutated(test.fleetText());
             test.loadText(text, Math.min(text.length(), 1200));
             test.call("machines");
             test.call("rules");
         }
+        done.addAll(test.done);
         return test.wrong;
     }
 
@@ -302,9 +348,9 @@ public final class RandomRunsTest {
         Map<String, Integer> answers = new HashMap<>();
         for (int seed = first; seed < first + runs; seed++) {
             RandomRunsTest test = new RandomRunsTest(seed);
-            if (test.run() + runText(-seed) > 0) {
+            if (test.run() > 0 || test.compareTexts() > 0) {
                 System.out.println("the run of seed " + seed + " is wrong; its last calls, with what is due:");
-                int from = Math.max(0, test.done.size() - 15);
+                int from = Math.max(0, test.done.size() - 40);
                 test.done.subList(from, test.done.size()).forEach(System.out::println);
                 System.exit(1);
             }

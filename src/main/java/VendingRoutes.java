@@ -102,7 +102,9 @@ public final class VendingRoutes {
         state.copyFrom(trial);
         hasFleet = true;
         history.count = 0;
-        Arrays.fill(isSaved, false);
+        for (int place = 0; place < SAVING_PLACES; place++) {
+            isSaved[place] = false;
+        }
         return state.machineCount;
     }
 

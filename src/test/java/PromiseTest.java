@@ -81,6 +81,9 @@ public final class PromiseTest {
         deposits();
         undoing();
         saving();
+        fullFleet();
+        everythingComesBack();
+        nothingIsLeftOfAnEarlierFleet();
         withoutFleet();
         for (int promise = 1; promise <= 64; promise++) {
             if (checks[promise] == 0) {
@@ -211,6 +214,9 @@ public final class PromiseTest {
         refusedLines(" product 1 1 1", 1, 1);
         refusedLines(";;", 1, 1);
         refusedLines(";gap", 1, 1);
+        refusedLines(";xachine 0 0", 1, 1);
+        refusedLines(";machines 0 0", 1, 1);
+        refusedLines(";machin 0 0", 1, 1);
         refusedLines(";(", 1, 1);
         refusedLines(";!", 1, 1);
         refusedLines(";product 0", 2, 9);
@@ -290,7 +296,11 @@ public final class PromiseTest {
         is(3, withLines(";machine 0 0".repeat(8)).machines(), 8);
         is(3, withLines(";product 1 1 1".repeat(5) + ";machine 0 0;slot 5 1 0 0").products(), 6);
         is(3, withLines(";machine 0 0" + ";rule days > 1".repeat(4)).rules(), 4);
-        // The bytes behind the first n do not count, and neither do those of an earlier text.
+        // The bytes behind the first n do not count: not even the rest of a word or a number.
+        VendingRoutes cut = new VendingRoutes();
+        Fleets.write(cut, "fleets");
+        fails(3, ARGUMENT, () -> cut.load(5));
+        is(5, cut.errorPosition(), 5);
         VendingRoutes x = new VendingRoutes();
         String text = Fleets.HEAD + ";machine 1 1";
         Fleets.write(x, text + "2");
@@ -431,6 +441,22 @@ public final class PromiseTest {
         fails(21, ARGUMENT, () -> x.reports(0, 0, 2001));
         fails(21, ARGUMENT, () -> x.reports(0, 0, MIN));
         fails(21, INDEX, () -> x.reports(0, 2, 2001));
+        // Read on the evening of day 1 and on the morning of day 2: the second time there is no day between.
+        VendingRoutes twice = withLines(";machine 1 0;slot 0 10 10 100");
+        twice.force(0);
+        twice.advance(1);
+        twice.force(0);
+        twice.advance(1);
+        is(20, twice.rateOf(0, 0), 1f);
+        is(19, twice.estimateOf(0, 0), 9f);
+        // A visit on the morning of day 3 reads what was sold on the days 1 and 2: 0 and 1 at half a unit a day.
+        VendingRoutes visited = Fleets.loaded(Fleets.HEAD.replace("level 50", "level 0")
+                + ";machine 1 0;slot 0 10 10 70 every 30");
+        visited.advance(2);
+        is(20, visited.rateOf(0, 0), 0.7f);
+        visited.force(0);
+        visited.advance(1);
+        is(20, visited.rateOf(0, 0), 0.7f + (0.5f - 0.7f) * 0.5f);
         // Silent on day 1: the estimate stays an estimate.
         VendingRoutes y = Fleets.loaded(Fleets.FAR.replace("250 every 3", "50"));
         y.setGap(0, 1, 1);
@@ -546,6 +572,13 @@ public final class PromiseTest {
         is(24, x.isRuleMet(3, 0), false);
         is(24, x.cashIn(0) / 100, 1);
         is(24, x.isRuleMet(2, 0), true);
+        VendingRoutes rich = Fleets.loaded(Fleets.HEAD.replace("product 10", "product 100")
+                + ";machine 1 0" + ";slot 0 99 99 2000".repeat(5) + ";rule cash = 100;rule cash > 99;rule cash < 100");
+        rich.advance(1);
+        is(26, rich.cashIn(0), 10000);
+        is(24, rich.isRuleMet(0, 0), true);
+        is(24, rich.isRuleMet(1, 0), true);
+        is(24, rich.isRuleMet(2, 0), false);
         fails(24, INDEX, () -> x.isRuleMet(4, 0));
         fails(24, INDEX, () -> x.isRuleMet(-1, 0));
         fails(24, INDEX, () -> x.isRuleMet(0, 2));
@@ -601,6 +634,10 @@ public final class PromiseTest {
         is(30, x.stockOfProduct(0), 120);
         fails(30, INDEX, () -> x.stockOfProduct(1));
         fails(30, INDEX, () -> x.stockOfProduct(-1));
+        VendingRoutes small = withLines(";machine 0 0;slot 0 99 98 0;slot 0 1 1 0;slot 0 1 0 0");
+        is(29, small.lowestSlot(0), 2);
+        is(29, small.lowestSlot(1), 0);
+        is(29, small.lowestSlot(2), 1);
         VendingRoutes t = two();
         is(30, t.stockOfProduct(0), 24);
         is(30, t.stockOfProduct(1), 10);
@@ -670,6 +707,18 @@ public final class PromiseTest {
         x.force(1);
         is(33, route(x), "1");
         is(33, route(Fleets.loaded(head + east + east.replace("10 0", "0 10"))), "0");
+        String three = ";machine 3 0;slot 0 9 0 100;machine 2 0;slot 0 9 0 300;machine 1 0;slot 0 9 0 200";
+        // In the order of the risks: 1; 2 in front of it; 0 between them, where it is as good as behind them.
+        is(33, route(Fleets.loaded(head + three)), "201");
+        is(33, route(Fleets.loaded(head.replace("shift 20", "shift 5") + three)), "21");
+        is(33, route(Fleets.loaded(head.replace("shift 20", "shift 3") + three)), "2");
+        // The route is that of the next day.
+        VendingRoutes sunday = Fleets.loaded(head.replace("level 100", "level 0") + ";machine 1 1;rule weekday = 2");
+        is(32, sunday.routeLength(), 0);
+        sunday.advance(1);
+        is(32, sunday.routeLength(), 1);
+        sunday.advance(1);
+        is(32, sunday.routeLength(), 0);
         // A pending mix change and a rule make a machine due too.
         VendingRoutes y = Fleets.loaded(head.replace("level 100", "level 0") + ";machine 1 0;slot 0 9 9 0"
                 + ";machine 2 0;slot 0 9 9 0;rule visits > 0");
@@ -927,6 +976,12 @@ public final class PromiseTest {
         is(57, x.setLevel(3), 0);
         // No PENALTY: the fewest visits decide, and then the smallest level.
         is(51, Fleets.loaded(text.replace("10 1 7", "10 1 0")).bestLevel(9), 0);
+        // Level 20 visits on day 3 only; 0 and 10 visit on the days 4 and 5, 30 visits on the days 3 and 5.
+        is(51, Fleets.loaded("fleet 0 0 shift 9 load 6 visit 0 alpha 0 level 0 horizon 1;product 1 1 0"
+                + ";machine 0 0;slot 0 5 3 100;slot 0 4 3 100").bestLevel(5), 20);
+        // From day 2 on the estimate stays 1 of 1 with a rate of 0; only LEVEL 100 finds out before day 4.
+        is(51, Fleets.loaded("fleet 0 0 shift 9 load 9 visit 0 alpha 100 level 0 horizon 1;product 1 1 1"
+                + ";machine 0 0 gap 2 9999;slot 0 1 1 50").bestLevel(4), 100);
         for (int n : new int[] {0, -1, 61, MAX, MIN}) {
             fails(51, ARGUMENT, () -> x.bestLevel(n));
         }
@@ -1199,6 +1254,163 @@ public final class PromiseTest {
         fails(63, INDEX, () -> x.save(-1));
         fails(64, INDEX, () -> x.restore(2));
         fails(64, INDEX, () -> x.restore(-1));
+    }
+
+    /** As many machines, slots, products and rules as there may be, all in one place, with 21 units to fill each. */
+    private static void fullFleet() {
+        StringBuilder text = new StringBuilder("fleet 0 0 shift 999 load 9999 visit 1 alpha 50 level 80 horizon 2");
+        text.append(";product 2 1 3".repeat(6));
+        for (int m = 0; m < 8; m++) {
+            text.append(";machine 1 1");
+            for (int s = 0; s < 5; s++) {
+                text.append(";slot ").append((m + s) % 6).append(" 99 78 2000");
+            }
+        }
+        text.append(";rule empty = 5;rule days > 3;rule cash > 98;rule visits > 9999");
+        VendingRoutes x = Fleets.loaded(text.toString());
+        is(9, x.products(), 6);
+        is(10, x.rules(), 4);
+        is(33, route(x), "76543210");
+        is(34, x.routeMinutes(), 12);
+        is(22, x.risk(7), 0f);
+        is(24, x.isRuleMet(0, 7), false);
+        is(29, x.lowestSlot(39), 74);
+        fails(29, INDEX, () -> x.lowestSlot(40));
+        fails(31, INDEX, () -> x.worst(8));
+        // Of 40 slots, product 3 has those with m + s = 3 (four), 9 (three: 5 4, 6 3, 7 2).
+        is(30, x.stockOfProduct(3), 7 * 78);
+        is(35, x.plannedLoad(3), 7 * 21);
+        is(31, x.worst(7), 7);
+        is(25, x.daysLeft(7), 4);
+        is(46, x.report(), 8 * 31 + 7);
+        is(49, x.visitsIn(1), 8);
+        is(52, x.bestForce(1), NONE);
+        is(54, x.advance(1), 0);
+        is(13, x.stockOf(7, 4), 79);
+        is(26, x.cashIn(7), 200);
+        is(43, x.profit(), 40 * (20 * 2L - 21));
+        is(44, x.events(), 8);
+        is(45, eventOf(x, 7), "1 0 0 105");
+        is(36, x.minutesBetween(7, NONE), 2);
+    }
+
+    /** Numbers that are all different from those at first. */
+    private static VendingRoutes busy() {
+        VendingRoutes x = Fleets.loaded("fleet 0 0 shift 50 load 17 visit 3 alpha 30 level 30 horizon 2"
+                + ";product 100 40 30;product 150 60 20;machine 3 4 gap 3 4;slot 0 10 4 200;slot 1 10 10 450 every 2"
+                + ";machine 10 0 gap 2 3;slot 0 20 20 700;machine 90 0;slot 0 1 0 300 every 4");
+        x.changeMix(0, 1, 0, 330);
+        x.advance(5);
+        x.deposit(333);
+        x.force(1);
+        x.changeMix(1, 0, 1, 250);
+        x.advance(1);
+        return x;
+    }
+
+    private static String everything(VendingRoutes x) {
+        StringBuilder all = new StringBuilder();
+        all.append(x.day()).append(' ').append(x.account()).append(' ').append(x.deposited()).append(' ')
+                .append(x.shortage()).append(' ').append(x.minutes()).append(' ').append(x.leftover()).append(' ')
+                .append(x.lostCost()).append(' ').append(x.profit()).append(' ').append(route(x)).append(' ')
+                .append(x.routeMinutes()).append(' ').append(x.lostIn(9)).append(' ').append(x.visitsIn(9));
+        for (int m = 0; m < x.machines(); m++) {
+            all.append('\n').append(x.cashIn(m)).append(' ').append(x.visitsOf(m)).append(' ').append(x.lastVisit(m))
+                    .append(' ').append(x.isDue(m)).append(' ').append(x.risk(m)).append(' ').append(x.daysLeft(m));
+            for (int d = 1; d < 30; d++) {
+                all.append(x.reports(m, 0, d) ? '+' : '-');
+            }
+            for (int s = 0; s < x.slots(m); s++) {
+                all.append('\n').append(x.productOf(m, s)).append(' ').append(x.stockOf(m, s)).append(' ')
+                        .append(x.soldOf(m, s)).append(' ').append(x.filledOf(m, s)).append(' ')
+                        .append(x.returnedOf(m, s)).append(' ').append(x.lostOf(m, s)).append(' ')
+                        .append(x.pendingOf(m, s)).append(' ').append(x.estimateOf(m, s)).append(' ')
+                        .append(x.rateOf(m, s));
+            }
+        }
+        for (int i = 0; i < x.events(); i++) {
+            all.append('\n').append(eventOf(x, i));
+        }
+        return all.toString();
+    }
+
+    private static void everythingComesBack() {
+        String before = everything(busy());
+        VendingRoutes x = busy();
+        x.advance(13);
+        String later = everything(x);
+        is(61, later.equals(before), false);
+        x.undo();
+        is(61, everything(x), before);
+        // What follows is the same too: nothing that is not told was lost.
+        x.advance(13);
+        is(61, everything(x), later);
+        x.undo();
+        x.save(1);
+        x.deposit(12);
+        x.changeMix(0, 0, 1, 999);
+        x.setLevel(99);
+        x.setShift(1);
+        x.setGap(0, 1, 99);
+        x.force(2);
+        x.advance(20);
+        x.restore(1);
+        is(64, everything(x), before);
+        x.advance(13);
+        is(64, everything(x), later);
+        x.restore(1);
+        x.lostIn(100);
+        x.visitsIn(40);
+        x.firstLoss(100);
+        x.bestLevel(50);
+        x.bestForce(30);
+        x.mixGain(0, 0, 1, 5, 20);
+        is(48, everything(x), before);
+    }
+
+    private static void nothingIsLeftOfAnEarlierFleet() {
+        VendingRoutes x = busy();
+        x.force(0);
+        x.changeMix(0, 0, 1, 999);
+        x.setGap(0, 1, 5);
+        everything(x);
+        Fleets.write(x, Fleets.TWO);
+        x.load(Fleets.TWO.length());
+        is(3, everything(x), everything(two()));
+        x.advance(9);
+        VendingRoutes y = two();
+        y.advance(9);
+        is(3, everything(x), everything(y));
+        // A wrong text does not touch the fleet, its rules or its products, however far it is read.
+        VendingRoutes z = Fleets.loaded(Fleets.TWO + ";rule weekday = 3");
+        VendingRoutes same = Fleets.loaded(Fleets.TWO + ";rule weekday = 3");
+        for (int i = 0; i < 3; i++) {
+            String wrongText = Fleets.HEAD.replace("0 0", "50 60") + ";product 1 2 3;product 4 5 6;machine 9 9"
+                    + ";slot 1 9 3 77;rule days > 0 or days < 1;rule days = 0;rule x";
+            Fleets.write(z, wrongText);
+            fails(3, ARGUMENT, () -> z.load(wrongText.length()));
+            is(3, everything(z), everything(same));
+            is(3, z.products() + " " + z.rules(), "2 1");
+            is(3, z.minutesBetween(NONE, 1), 10);
+            z.advance(1);
+            same.advance(1);
+        }
+        Fleets.write(z, Fleets.FAR + ";rule days = 1");
+        z.load(Fleets.FAR.length() + 14);
+        is(3, z.products() + " " + z.rules(), "1 1");
+        is(3, everything(z), everything(Fleets.loaded(Fleets.FAR + ";rule days = 1")));
+        // A text with as many tests as it can hold, again and again.
+        StringBuilder full = new StringBuilder(Fleets.HEAD + ";machine 0 0;rule days=0");
+        while (full.length() < 1180) {
+            full.append("or days=0");
+        }
+        full.append("or days=1");
+        VendingRoutes again = new VendingRoutes();
+        for (int i = 0; i < 5; i++) {
+            Fleets.write(again, full.toString());
+            is(3, again.load(full.length()), 1);
+            is(24, again.isRuleMet(0, 0), true);
+        }
     }
 
     /** Where there is no fleet, that is told before anything else, but for restore and the texts. */

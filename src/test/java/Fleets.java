@@ -18,6 +18,12 @@ final class Fleets {
     private Fleets() {
     }
 
+    /** A fleet line with the depot at 0 0. */
+    static String head(int shift, int load, int visit, int alpha, int level, int horizon) {
+        return "fleet 0 0 shift " + shift + " load " + load + " visit " + visit + " alpha " + alpha + " level " + level
+                + " horizon " + horizon;
+    }
+
     static void write(VendingRoutes x, String text) {
         byte[] bytes = text.getBytes(StandardCharsets.ISO_8859_1);
         for (int at = 0; at < bytes.length; at += 20) {

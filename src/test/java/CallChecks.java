@@ -21,6 +21,8 @@ final class CallChecks {
     static final Supplier<VendingRoutes> BUSY = CallChecks::busy;
     /** The same with six changes to undo. */
     static final Supplier<VendingRoutes> SIX = CallChecks::six;
+    /** With units that were lost, and sold since they were read last. */
+    static final Supplier<VendingRoutes> LOSING = CallChecks::losing;
     static final Supplier<VendingRoutes> DAY_1999 = () -> onDay(1999);
     static final Supplier<VendingRoutes> DAY_2000 = () -> onDay(2000);
 
@@ -74,6 +76,32 @@ final class CallChecks {
         VendingRoutes x = busy();
         x.advance(2);
         return x;
+    }
+
+    static VendingRoutes losing() {
+        VendingRoutes x = Fleets.loaded(Fleets.head(30, 12, 2, 40, 20, 3) + ";product 100 30 7;product 55 20 9"
+                + ";machine 3 4 gap 4 6;slot 0 9 6 370 every 5;slot 1 12 12 410 every 4"
+                + ";machine 50 9;slot 1 5 3 210 every 7;rule days > 5 and empty > 0");
+        x.advance(6);
+        x.save(0);
+        x.advance(1);
+        x.changeMix(0, 1, 0, 333);
+        x.setLevel(35);
+        return x;
+    }
+
+    /** As many lines of each kind as there may be; machine m lacks 1 + m units in each of its slots on day 1. */
+    static String fullText() {
+        StringBuilder text = new StringBuilder(Fleets.head(40, 99, 1, 50, 0, 2));
+        text.append(";product 9 3 5".repeat(6));
+        for (int m = 0; m < 8; m++) {
+            text.append(";machine ").append(m).append(" 9 gap 2 2");
+            for (int slot = 0; slot < 5; slot++) {
+                text.append(";slot ").append(slot + 1).append(" 9 3 ").append(400 + 100 * m);
+            }
+            text.append(" every 3");
+        }
+        return text + ";rule days > 3".repeat(3) + ";rule empty = 5";
     }
 
     static VendingRoutes onDay(int day) {
@@ -171,20 +199,23 @@ final class CallChecks {
 
     private void changes() {
         s.of("section 7", "The state consists of everything that days and changes alter.");
-        String before = Snapshot.of(busy());
-        for (Function<VendingRoutes, Object> change : everyChange()) {
-            VendingRoutes undone = busy();
-            change.apply(undone);
-            undone.undo();
-            s.is(Snapshot.of(undone), before);
-            VendingRoutes restored = busy();
-            restored.save(1);
-            change.apply(restored);
-            restored.restore(1);
-            VendingRoutes same = busy();
+        for (Supplier<VendingRoutes> maker : List.of(BUSY, LOSING)) {
+            String before = Snapshot.of(maker.get());
+            VendingRoutes same = maker.get();
             same.save(1);
             same.restore(1);
-            s.is(Snapshot.of(restored), Snapshot.of(same));
+            String saved = Snapshot.of(same);
+            for (Function<VendingRoutes, Object> change : everyChange()) {
+                VendingRoutes undone = maker.get();
+                change.apply(undone);
+                undone.undo();
+                s.is(Snapshot.of(undone), before);
+                VendingRoutes restored = maker.get();
+                restored.save(1);
+                change.apply(restored);
+                restored.restore(1);
+                s.is(Snapshot.of(restored), saved);
+            }
         }
 
         s.of("section 7", "The methods that are documented as changes can be undone, the latest one first.");
@@ -250,7 +281,7 @@ final class CallChecks {
         s.is(again.undo(), 0);
 
         s.of("section 7", "A what-if question simulates a copy of the state; it changes nothing.");
-        for (Supplier<VendingRoutes> maker : List.of(BUSY, SIX)) {
+        for (Supplier<VendingRoutes> maker : List.of(BUSY, SIX, LOSING)) {
             s.asks(maker, maker.get().advance(30), y -> y.lostIn(30));
             s.asks(maker, ByFace.visits(maker, 30), y -> y.visitsIn(30));
             s.asks(maker, ByFace.firstLoss(maker, 60), y -> y.firstLoss(60));
@@ -471,6 +502,28 @@ final class CallChecks {
         s.fails(STATE, () -> again.restore(0));
         s.fails(STATE, () -> again.restore(1));
         s.is(again.pendingOf(0, 1) + " " + again.setGap(1, 2, 3) + " " + again.isDue(1), "-1 false false");
+
+        // Nothing is left of the fleets before, of what was asked about them, or of a text that was wrong.
+        String last = Fleets.TWO + ";rule days > 4";
+        String due = Snapshot.ofFleet(Fleets.loaded(last));
+        String[] earlier = {fullText(), Fleets.FAR, last + ";rule empty < 9 or cash > 0;rule visits = 5"};
+        for (String first : earlier) {
+            for (String second : earlier) {
+                VendingRoutes y = Fleets.loaded(first);
+                y.advance(7);
+                y.force(0);
+                y.changeMix(0, 0, 0, 5);
+                y.lostIn(9);
+                loadOther(y, second);
+                y.deposit(77);
+                y.bestForce(9);
+                y.mixGain(0, 0, 0, 9, 9);
+                loadWrong(y, first + ";!");
+                y.lostIn(9);
+                loadOther(y, last);
+                s.is(Snapshot.ofFleet(y), due);
+            }
+        }
 
         s.of("promise 3", "- `n`: number of bytes to parse");
         VendingRoutes all = new VendingRoutes();
@@ -874,6 +927,13 @@ final class CallChecks {
             }
             s.is(order.toString(), due[day]);
             x.advance(1);
+        }
+        // Machine m lacks 1 + m units in each of its five slots.
+        VendingRoutes full = Fleets.loaded(fullText());
+        full.setShift(1);
+        full.advance(1);
+        for (int rank = 0; rank < 8; rank++) {
+            s.is(full.worst(rank), 7 - rank);
         }
         s.of("promise 31",
                 "Throws `IndexOutOfBoundsException` if rank is negative or not less than the number of machines");

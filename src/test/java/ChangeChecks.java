@@ -383,7 +383,7 @@ final class ChangeChecks {
         s.is(Fleets.loaded(Fleets.HEAD + ";machine 0 0").firstLoss(100), NONE);
         VendingRoutes slow = Fleets.loaded(Fleets.head(1, 0, 0, 0, 0, 1) + ";product 1 1 0;machine 9 9;slot 0 1 0 1");
         s.is(slow.firstLoss(99) + " " + slow.firstLoss(100), "-1 100");
-        for (Supplier<VendingRoutes> maker : List.of(BUSY, SIX)) {
+        for (Supplier<VendingRoutes> maker : List.of(BUSY, SIX, CallChecks.LOSING)) {
             for (int n : new int[] {1, 2, 17, 100}) {
                 s.is(maker.get().firstLoss(n), ByFace.firstLoss(maker, n));
                 s.is(maker.get().visitsIn(n), ByFace.visits(maker, n));
@@ -413,7 +413,7 @@ final class ChangeChecks {
         Supplier<VendingRoutes> visits = () -> Fleets.loaded(Fleets.head(9, 6, 0, 0, 0, 1)
                 + ";product 1 1 0;machine 0 0;slot 0 5 3 100;slot 0 4 3 100");
         s.is(visits.get().bestLevel(5), 20);
-        for (Supplier<VendingRoutes> maker : List.of(BUSY, SIX, visits)) {
+        for (Supplier<VendingRoutes> maker : List.of(BUSY, SIX, CallChecks.LOSING, visits)) {
             for (int n : new int[] {1, 2, 7, 60}) {
                 s.is(maker.get().bestLevel(n), ByFace.bestLevel(maker, n));
             }
@@ -443,10 +443,12 @@ final class ChangeChecks {
         s.is(Fleets.loaded(apart.replace("#", "100")).bestForce(1), 1);
         s.is(Fleets.loaded(Fleets.FAR).bestForce(60), NONE);
         s.is(Fleets.loaded(Fleets.HEAD + ";machine 0 0").bestForce(60), NONE);
+        // Machine m of eight lacks 1 + m units in each of its five slots, and a visit brings 6.
+        s.is(Fleets.loaded(CallChecks.fullText()).bestForce(1), 5);
         // It is forced for the first day only: the loss is on day 2, and day 1 fills for it.
         VendingRoutes later = Fleets.loaded(head + ";machine 0 0;slot 0 99 99 0;machine 0 0;slot 0 40 30 2000");
         s.is(later.bestForce(1) + " " + later.bestForce(2), "-1 1");
-        for (Supplier<VendingRoutes> maker : List.of(BUSY, SIX)) {
+        for (Supplier<VendingRoutes> maker : List.of(BUSY, SIX, CallChecks.LOSING)) {
             for (int n : new int[] {1, 2, 7, 60}) {
                 s.is(maker.get().bestForce(n), ByFace.bestForce(maker, n));
             }

@@ -435,6 +435,18 @@ final class SectionChecks {
         empty.advance(1);
         s.is(empty.estimateOf(0, 2) + " " + empty.stockOf(0, 2), "0.5 1");
         s.is(holds(empty, 0) + " " + holds(empty, 1), "false true");
+        // At first days and weekday are 1, and the others are 0.
+        for (String value : new String[] {"days", "weekday", "cash", "visits", "empty"}) {
+            int is = value.startsWith("d") || value.startsWith("w") ? 1 : 0;
+            for (int number : new int[] {0, 1, 2, 9998, 9999}) {
+                VendingRoutes compared = fleet(Fleets.head(9, 0, 0, 0, 0, 1), ";machine 0 0;rule " + value + " < "
+                        + number + ";rule " + value + " = " + number + ";rule " + value + " > " + number + ";rule not "
+                        + value + " < " + number + " and not " + value + " > " + number);
+                s.is(value + " and " + number + ": " + holds(compared, 0) + " " + holds(compared, 1) + " "
+                        + holds(compared, 2) + " " + holds(compared, 3), value + " and " + number + ": "
+                        + (is < number) + " " + (is == number) + " " + (is > number) + " " + (is == number));
+            }
+        }
         // From left to right: days = 1 is true and days = 0 is false on the first day.
         String[] tests = {"days = 1 or days = 1 and days = 0", "days = 0 and days = 0 or days = 1",
             "days = 1 or (days = 1 and days = 0)", "days = 0 and (days = 0 or days = 1)", "days = 1 and days = 1",

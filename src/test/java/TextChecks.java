@@ -218,9 +218,30 @@ final class TextChecks {
                 wrongBehind(right, other + rest, 1);
                 wrongBehind(right, other + " " + tokens.get(at) + rest, 1);
             }
+            for (String near : isNumber ? List.<String>of() : nearTo(tokens.get(at))) {
+                wrongBehind(right, near + rest, 1);
+            }
             wrongBehind(right, "99999" + rest, isNumber ? 2 : 1);
             wrongBehind(right, (isNumber ? "(" : "0") + rest, 1);
         }
+    }
+
+    /** A word with a letter less, more, or another one at each place. */
+    private static List<String> nearTo(String word) {
+        List<String> near = new ArrayList<>();
+        if (!Character.isLetter(word.charAt(0))) {
+            return near;
+        }
+        near.add(word.substring(1) + "(");
+        near.add(word.substring(0, word.length() - 1) + "(");
+        near.add(word + "s");
+        near.add(word + word.charAt(word.length() - 1));
+        near.add(word.charAt(0) + word);
+        for (int i = 0; i < word.length(); i++) {
+            char other = (char) (word.charAt(i) == 'z' ? 'a' : word.charAt(i) + 1);
+            near.add(word.substring(0, i) + other + word.substring(i + 1));
+        }
+        return near;
     }
 
     private void belonging() {

@@ -525,6 +525,15 @@ final class CallChecks {
             }
         }
 
+        // Nor does it matter how many long rules were read in texts that were wrong.
+        VendingRoutes tried = new VendingRoutes();
+        String rule = ";rule " + "not ".repeat(9) + "days = 9" + (" or " + "not ".repeat(9) + "days<9").repeat(22);
+        for (int i = 0; i < 5; i++) {
+            loadWrong(tried, Fleets.HEAD + ";machine 0 0" + rule + " !");
+        }
+        loadOther(tried, Fleets.HEAD + ";machine 0 0;rule days = 1;rule days = 2;rule days < 2");
+        s.is(tried.isRuleMet(0, 0) + " " + tried.isRuleMet(1, 0) + " " + tried.isRuleMet(2, 0), "true false true");
+
         s.of("promise 3", "- `n`: number of bytes to parse");
         VendingRoutes all = new VendingRoutes();
         Fleets.write(all, Fleets.HEAD + ";machine 0 0");
@@ -725,6 +734,19 @@ final class CallChecks {
         s.is(sold.soldOf(0, 0), 5);
         loadOther(sold, Fleets.TWO);
         s.is(sold.soldOf(0, 0), 0);
+        s.of("promise 16", "Returns how many units have been returned from a slot at mix changes.");
+        VendingRoutes returned = Fleets.loaded(Fleets.head(99, 9, 0, 50, 0, 1) + ";product 9 2 5;product 30 11 6"
+                + ";machine 0 0;slot 0 9 7 300;slot 1 9 9 0");
+        returned.changeMix(0, 0, 1, 200);
+        returned.advance(1);
+        s.is(returned.returnedOf(0, 0), 7);
+        returned.changeMix(0, 0, 0, 0);
+        returned.advance(1);
+        // 2 of the 9 units were sold between the mix changes.
+        s.is(returned.returnedOf(0, 0), 7 + 7);
+        returned.changeMix(0, 0, 0, 0);
+        returned.advance(1);
+        s.is(returned.returnedOf(0, 0) + " " + returned.returnedOf(0, 1), "23 0");
         s.of("promise 18", "Returns the number of the product; NONE if no mix change is pending.");
         VendingRoutes pending = Fleets.loaded(Fleets.TWO);
         for (int product : new int[] {0, 1, 0}) {

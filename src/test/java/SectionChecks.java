@@ -197,6 +197,14 @@ final class SectionChecks {
         s.is(x.rateOf(0, 0), first);
         x.advance(1);
         s.is(x.rateOf(0, 0), first + (8f / 3f - first) * 1f);
+        // Since the text was loaded: no unit of an earlier fleet counts, sold or only asked about.
+        VendingRoutes next = left(100, ";machine 9 9;slot 0 99 99 900 every 30");
+        next.advance(2);
+        next.lostIn(5);
+        Fleets.write(next, Fleets.head(5, 99, 0, 100, 0, 1) + ";product 9 2 5;machine 9 9;slot 0 99 99 250 every 3");
+        next.load(next.buffered());
+        next.advance(3);
+        s.is(next.rateOf(0, 0), first);
         // Sold out on day 2: that day counts, for it sold on it, and day 3 does not, for it was empty.
         VendingRoutes soldOut = left(50, ";machine 9 9;slot 0 9 3 250 every 3");
         soldOut.advance(3);

@@ -142,6 +142,19 @@ final class CallChecks {
         return text.toString();
     }
 
+    /** The report, and the slots by their ranks. */
+    private static String stocks(VendingRoutes x) {
+        StringBuilder text = new StringBuilder(reportOf(x));
+        int rank = 0;
+        for (int m = 0; m < x.machines(); m++) {
+            for (int slot = 0; slot < x.slots(m); slot++) {
+                text.append(' ').append(x.lowestSlot(rank));
+                rank++;
+            }
+        }
+        return text.toString();
+    }
+
     // ---- section 7
 
     private void exceptions() {
@@ -562,6 +575,7 @@ final class CallChecks {
 
         s.of("promise 3", "Throws `IllegalArgumentException` if the text has an error");
         String fleet = Snapshot.ofFleet(busy());
+        String stocks = stocks(busy());
         for (String wrong : new String[] {"", "fleet 100", Fleets.HEAD, Fleets.FAR + ";", Fleets.FAR + " !",
             Fleets.HEAD.replace("0 0", "9 9") + ";product 9 9 9;machine 7 7 gap 5 9;slot 1 9 9 9;rule days = 0;rule x",
             Fleets.HEAD + ";product 1 1 1;machine 1 1;machine 2 2;machine 3 3;slot 0 9 9 9;slot 0 9 9 9999"}) {
@@ -569,6 +583,7 @@ final class CallChecks {
             loadWrong(y, "");
             Fleets.write(y, wrong);
             s.fails(ARGUMENT, () -> y.load(wrong.length()));
+            s.is(stocks(y), stocks);
             s.is(Snapshot.ofFleet(y), fleet);
         }
     }
@@ -899,6 +914,18 @@ final class CallChecks {
         s.is(y.lowestSlot(0) + " " + y.lowestSlot(1) + " " + y.lowestSlot(2) + " " + y.lowestSlot(3), "0 1 2 3");
         y.advance(1);
         s.is(y.lowestSlot(0) + " " + y.lowestSlot(1) + " " + y.lowestSlot(2) + " " + y.lowestSlot(3), "1 0 2 3");
+        // By the estimate even if the slot is empty: 1 of 9, beside 5 of 99.
+        VendingRoutes sold = Fleets.loaded(Fleets.head(1, 0, 0, 100, 0, 1) + ";product 1 1 1;machine 9 9 gap 2 3"
+                + ";slot 0 9 3 150;slot 0 99 5 0;slot 0 9 9 0");
+        sold.advance(2);
+        s.is(sold.stockOf(0, 0) + " " + sold.estimateOf(0, 0), "0 1.0");
+        s.is(sold.lowestSlot(0) + " " + sold.lowestSlot(1) + " " + sold.lowestSlot(2), "1 0 2");
+        // 0.01 of 20 twice, but for the last digits of floats: 5.0001E-4 and 4.999995E-4.
+        VendingRoutes near = Fleets.loaded(Fleets.head(1, 0, 0, 0, 0, 1) + ";product 1 1 1;machine 9 9"
+                + ";slot 0 20 20 1999 every 9;slot 0 20 3 299 every 9");
+        near.advance(1);
+        s.is(near.estimateOf(0, 0) > near.estimateOf(0, 1), true);
+        s.is(near.lowestSlot(0) + " " + near.lowestSlot(1), "1 0");
         s.of("promise 29",
                 "Throws `IndexOutOfBoundsException` if rank is negative or not less than the number of slots");
         for (int rank : new int[] {-1, 3, 4, 10, MAX, MIN}) {
@@ -924,6 +951,12 @@ final class CallChecks {
         s.is(p.stockOfProduct(0) + " " + p.stockOfProduct(1), "17 5");
         p.advance(1);
         s.is(p.stockOfProduct(0) + " " + p.stockOfProduct(1) + " " + p.stockOfProduct(5), "16 0 8");
+        // Units, not estimates, which are 8.5 and 2.5 here.
+        VendingRoutes silent = Fleets.loaded(Fleets.head(1, 0, 0, 0, 0, 1) + ";product 1 1 1;machine 9 9"
+                + ";slot 0 9 9 50 every 9;slot 0 9 3 50 every 9");
+        silent.advance(1);
+        s.is(silent.estimateOf(0, 0) + " " + silent.estimateOf(0, 1), "8.5 2.5");
+        s.is(silent.stockOfProduct(0), 12);
         s.of("promise 30", "Throws `IndexOutOfBoundsException` if there is no such product");
         for (int product : new int[] {-1, 2, 6, MAX, MIN}) {
             s.refuses(BUSY, INDEX, z -> z.stockOfProduct(product));

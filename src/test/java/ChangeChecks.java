@@ -148,6 +148,13 @@ final class ChangeChecks {
         VendingRoutes less = Fleets.loaded(Fleets.head(9, 1, 0, 0, 0, 1) + slow);
         less.advance(4);
         s.is(less.leftover(), 1);
+        // Of whichever product they are.
+        for (int product = 0; product < 6; product++) {
+            VendingRoutes z = Fleets.loaded(Fleets.head(9, 9, 0, 0, 0, 1) + ";product 1 1 1".repeat(5)
+                    + slow.replace("slot 0", "slot " + product));
+            z.advance(4);
+            s.is(z.leftover() + " " + z.filledOf(0, 0) + " " + z.filledOf(0, 1), "2 0 0");
+        }
     }
 
     private void losses() {
@@ -413,7 +420,12 @@ final class ChangeChecks {
         Supplier<VendingRoutes> visits = () -> Fleets.loaded(Fleets.head(9, 6, 0, 0, 0, 1)
                 + ";product 1 1 0;machine 0 0;slot 0 5 3 100;slot 0 4 3 100");
         s.is(visits.get().bestLevel(5), 20);
-        for (Supplier<VendingRoutes> maker : List.of(BUSY, SIX, CallChecks.LOSING, visits)) {
+        // Fewer visits do not make good for a loss: with 30 there are 1, 2 and 3 visits in 3, 4 and 5 days, where there
+        // are 2, 3 and 4 with 0, but a unit is lost on day 5.
+        Supplier<VendingRoutes> loss = () -> Fleets.loaded(Fleets.head(12, 3, 0, 0, 0, 1)
+                + ";product 1 1 1;machine 5 0;slot 0 6 6 200;slot 0 4 1 100");
+        s.is(loss.get().bestLevel(3) + " " + loss.get().bestLevel(4) + " " + loss.get().bestLevel(5), "30 30 0");
+        for (Supplier<VendingRoutes> maker : List.of(BUSY, SIX, CallChecks.LOSING, visits, loss)) {
             for (int n : new int[] {1, 2, 7, 60}) {
                 s.is(maker.get().bestLevel(n), ByFace.bestLevel(maker, n));
             }

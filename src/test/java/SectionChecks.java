@@ -209,6 +209,18 @@ final class SectionChecks {
         VendingRoutes soldOut = left(50, ";machine 9 9;slot 0 9 3 250 every 3");
         soldOut.advance(3);
         s.is(soldOut.rateOf(0, 0), 2.5f + (3f / 2f - 2.5f) * 0.5f);
+        // The stock tells it, not the estimate: on day 3 the estimate is 1 and the slot is empty; in the second case
+        // the estimate is 0 on day 4 and there is a unit.
+        VendingRoutes fewer = left(100, ";machine 9 9 gap 2 3;slot 0 9 3 150");
+        fewer.advance(2);
+        s.is(fewer.stockOf(0, 0) + " " + fewer.estimateOf(0, 0), "0 1.0");
+        fewer.advance(2);
+        s.is(fewer.rateOf(0, 0), 1f + (2f / 1f - 1f) * 1f);
+        VendingRoutes more = left(100, ";machine 9 9 gap 3 4;slot 0 9 5 150");
+        more.advance(3);
+        s.is(more.stockOf(0, 0) + " " + more.estimateOf(0, 0), "1 0.0");
+        more.advance(2);
+        s.is(more.rateOf(0, 0), 2f + (2f / 2f - 2f) * 1f);
         // A day without a demand counts, if there is a unit.
         VendingRoutes slow = left(50, ";machine 9 9;slot 0 9 9 50");
         slow.advance(1);
@@ -561,6 +573,21 @@ final class SectionChecks {
         VendingRoutes x = fleet(Fleets.head(999, 0, 1, 0, 0, 1), lines);
         x.setShift(24);
         s.is(route(x), "10");
+        // In the place of a machine that is left out there is none, nor one of a route that was planned before.
+        VendingRoutes out = fleet(Fleets.head(100, 0, 0, 0, 0, 1),
+                ";machine 9 9;machine 9 9;machine 9 9;machine 9 0;machine 0 9;machine 99 99");
+        for (int machine = 0; machine < 3; machine++) {
+            out.force(machine);
+        }
+        s.is(route(out) + " " + out.routeMinutes(), "210 36");
+        for (int machine = 3; machine < 6; machine++) {
+            out.undo();
+        }
+        for (int machine = 3; machine < 6; machine++) {
+            out.force(machine);
+        }
+        // Told by the first plan: a later one no longer has the earlier route behind it.
+        s.is(out.routeMinutes() + " " + route(out), "36 43");
     }
 
     /** Machines that are due on day 1, without a risk, at the positions whose digits are given. */

@@ -16,8 +16,12 @@ import java.util.Random;
  */
 public final class RandomRunsTest {
     private static final int RUNS = 1500;
-    // The last step may make some ninety calls more, and an object is used for at most 512.
-    private static final int CALLS = 420;
+    // An object is used for at most so many calls.
+    private static final int CALLS = 512;
+    private static final int CALLS_TO_LOAD = 70;
+    private static final int CALLS_BEHIND_APPENDS = 6;
+    private static final int CALLS_TO_COMPARE = 25;
+    private static final int LAST_DAY = 2000;
     private static final Map<String, Method> PROGRAM = methods(VendingRoutes.class);
     private static final Map<String, Method> REFERENCE = methods(ReferenceRoutes.class);
     private static final List<String> NAMES = PROGRAM.keySet().stream().sorted(Comparator.naturalOrder()).toList();
@@ -28,12 +32,15 @@ public final class RandomRunsTest {
     private final List<String> done = new ArrayList<>();
     private final List<String> passive;
     private final List<String> active;
+    // Such a run lets many days pass on one fleet, up to the last day and beyond the events that are kept.
+    private final boolean isLong;
     private int machine = 0;
     private int calls = 0;
     private int wrong = 0;
 
     private RandomRunsTest(int seed) {
         random = new Random(seed);
+        isLong = chance(10);
         List<String> quiet = new ArrayList<>(NAMES);
         quiet.removeAll(List.of("append", "load"));
         active = List.of("advance", "force", "changeMix", "setLevel", "setShift", "setGap", "deposit", "undo", "save",
@@ -66,6 +73,9 @@ public final class RandomRunsTest {
 
     private String call(String name, Object... args) {
         calls++;
+        if (calls > CALLS) {
+            throw new AssertionError("more calls than the document allows");
+        }
         String is = answer(program, PROGRAM.get(name), args, true);
         String due = answer(reference, REFERENCE.get(name), args, false);
         String told = name + java.util.Arrays.toString(args);
@@ -206,7 +216,7 @@ public final class RandomRunsTest {
 
     private void loadText(String text, int n) {
         byte[] bytes = text.getBytes(StandardCharsets.ISO_8859_1);
-        for (int at = 0; at < bytes.length; at += 20) {
+        for (int at = 0; at < bytes.length && calls < CALLS - CALLS_BEHIND_APPENDS; at += 20) {
             Object[] args = new Object[5];
             for (int i = 0; i < 5; i++) {
                 int word = 0;
@@ -236,7 +246,7 @@ public final class RandomRunsTest {
         }
         boolean isDays = List.of("lostIn", "visitsIn", "firstLoss", "advance").contains(name);
         if (isDays || List.of("bestLevel", "bestForce").contains(name) || name.equals("mixGain") && index == 4) {
-            return 1 + below(chance(80) ? 8 : isDays ? 100 : 60);
+            return days(name, isDays ? 100 : 60);
         }
         switch (name) {
             case "stockOfProduct", "plannedLoad":
@@ -272,6 +282,17 @@ public final class RandomRunsTest {
             default:
                 return index == 0 ? below(machines + 1) : aSlot();
         }
+    }
+
+    private int days(String name, int most) {
+        int left = LAST_DAY - reference.day();
+        if (left <= most && chance(30)) {
+            return left + below(2);
+        }
+        if (isLong && name.equals("advance")) {
+            return 1 + below(most);
+        }
+        return 1 + below(chance(80) ? 8 : most);
     }
 
     private int aSlot() {
@@ -313,16 +334,16 @@ public final class RandomRunsTest {
             }
             call("load", below(60));
         }
-        int busy = 10 + below(50);
+        int busy = isLong ? 60 : 10 + below(50);
         String text = fleetText();
         loadText(text, text.length());
         while (calls < CALLS && wrong == 0) {
             if (chance(busy)) {
-                callByChance(active.get(below(active.size())));
-            } else if (chance(2)) {
+                callByChance(isLong && chance(40) ? "advance" : active.get(below(active.size())));
+            } else if (!isLong && calls < CALLS - CALLS_BEHIND_APPENDS && chance(2)) {
                 String next = chance(20) ? fleetText() : mutated(fleetText());
                 loadText(next, chance(95) ? Math.min(next.length(), 1200) : below(1300));
-            } else if (chance(10)) {
+            } else if (calls <= CALLS - CALLS_TO_COMPARE && chance(10)) {
                 compareEverything();
             } else {
                 callByChance(passive.get(below(passive.size())));
@@ -334,7 +355,7 @@ public final class RandomRunsTest {
     /** On objects of their own, since an object is used for at most 512 calls. */
     private int compareTexts() {
         RandomRunsTest test = new RandomRunsTest(random.nextInt());
-        for (int i = 0; i < 8 && test.calls < CALLS && test.wrong == 0; i++) {
+        for (int i = 0; i < 8 && test.calls < CALLS - CALLS_TO_LOAD && test.wrong == 0; i++) {
             String text = test.mutated(test.fleetText());
             test.loadText(text, Math.min(text.length(), 1200));
             test.call("machines");
